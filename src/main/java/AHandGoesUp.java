@@ -458,7 +458,6 @@ public final class AHandGoesUp {
         private boolean isKept;
 
         private void begin() {
-            Arrays.fill(dares, 0);
             Arrays.fill(times, 0);
             seed = 0;
             questions = 0;

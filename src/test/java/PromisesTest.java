@@ -160,6 +160,8 @@ public final class PromisesTest {
         faultOf(rowOfSix + "P1", 38);
         faultOf(rowOfSix.substring(0, 30) + "P0", 32);
         faultOf(rowOfSix.substring(0, 30) + "P04", 32);
+        faultOf("P01000P02000P03000P04000P05000F0", 32);
+        faultOf("P01000P02000P03000P04000P05000F00000", NONE);
         faultOf("P30000P31000P32000P33000P34000F35000F3", 37);
         faultOf(TWELVE.substring(0, 66) + "F0", 67);
         faultOf(TWELVE.substring(0, 71), 71);
@@ -178,16 +180,23 @@ public final class PromisesTest {
         x.ask(3, 9, FRONT, false);
         x.keep(0);
         x.keep(1);
+        x.ask(0, 9, FRONT, false);
+        x.ask(0, 9, FRONT, true);
         x.write(1, 'X');
         due("5 a fault", x.room(), STATE);
         due("5 class stays", x.count(1), 2);
-        due("5 questions stay", x.lesson(0), 1);
-        due("5 daring stays", x.about(1, 6) + x.about(0, 6), 11);
+        due("5 questions stay", x.lesson(0), 3);
+        due("5 wrong ones stay", x.lesson(2), 2);
+        due("5 daring stays 0", x.about(0, 6), 5);
+        due("5 daring stays 1", x.about(1, 6), 0);
         due("5 kept stays", x.again(1), 1);
+        x.ask(0, 9, FRONT, false);
+        due("5 one wrong", x.lesson(2), 1);
         x.wipe();
         Check.tell(x, "P00535F01537F02538");
         due("5 three", x.room(), 3);
         due("5 no questions", x.lesson(0), 0);
+        due("5 none without one", x.lesson(3), 0);
         due("5 none right", x.lesson(1), 0);
         due("5 none wrong", x.lesson(2), 0);
         due("5 nobody taken", x.lesson(4), 3);
@@ -317,6 +326,8 @@ public final class PromisesTest {
         x.mood(5);
         due("12 F up for sure", x.given(9, 0, 0, true), STATE);
         due("12 F and none knows", x.given(9, 1, 0, true), x.given(9, 1, 0, false), 4, 5);
+        AHandGoesUp y = Check.classOf("P00105");
+        due("12 it hardly can be", y.given(9, 1, 1, true), y.given(9, 1, 1, false), 1, 1);
         due("12 w 10", x.given(10, 0, 0, true), OUTSIDE);
         due("12 h -1", x.given(9, -1, 0, true), OUTSIDE);
         due("12 h 13", x.given(9, 13, 0, true), OUTSIDE);
@@ -339,6 +350,8 @@ public final class PromisesTest {
         // six know by nine tenths and dare not
         AHandGoesUp y = Check.classOf("P00900P01900P02900P03900P04900P05900");
         due("13 all know silently", y.likely(9, 0), 6);
+        due("13 it hardly can be", Check.classOf("P00105").likely(9, 1), 1);
+        due("13 all of twelve", Check.classOf(TWELVE).likely(9, 12), 12);
         due("13 nobody", new AHandGoesUp().likely(0, 0), 0);
     }
 
@@ -375,6 +388,15 @@ public final class PromisesTest {
         takenDue(y, 1, 9, LOT, 1, 4);
         takenDue(y, 1, 9, QUICK, 1, 2);
         takenDue(y, 0, 9, QUICK, 1, 2);
+        // six for sure in two rows: as the first is UP, none behind is TAKEN
+        String order = "231405";
+        for (int first = 0; first < 6; first++) {
+            AHandGoesUp row = Check.classOf("F12009" + rowFrom(order.substring(first)));
+            for (int i = 0; i <= 6 - first; i++) {
+                takenDue(row, i, 0, FRONT, i == 1 ? 1 : 0, 1);
+            }
+            due("14 the first is asked", row.ask(0, 0, FRONT, false), 1);
+        }
         due("14 pupil -1", y.taken(-1, 9, 0, true), UNKNOWN);
         due("14 pupil 2", y.taken(2, 9, 0, false), UNKNOWN);
         due("14 rule -1", y.taken(0, 9, -1, true), UNKNOWN);
@@ -382,6 +404,11 @@ public final class PromisesTest {
         due("14 UNKNOWN first", y.taken(0, 10, 5, true), UNKNOWN);
         due("14 w 10", y.taken(0, 10, 0, true), OUTSIDE);
         due("14 w -1", y.taken(0, -1, 4, false), OUTSIDE);
+    }
+
+    /** One that surely is UP in each of these columns of row 0. */
+    private static String rowFrom(String columns) {
+        return columns.replaceAll("(.)", "F0$1009");
     }
 
     private static void rightDue(AHandGoesUp x, int w, int rule, long above, long below) {
@@ -417,6 +444,7 @@ public final class PromisesTest {
         due("16 sticks", x.mostly(0, STICKS), 0);
         due("16 only 3 is up", x.mostly(0, FEWEST), 3);
         x.mood(6);
+        due("16 hardly", Check.classOf("P00105").mostly(9, FRONT), 0);
         due("16 none can be", x.mostly(9, LOT), NONE);
         due("16 sticks all the same", x.mostly(9, STICKS), 0);
         due("16 nobody to draw", new AHandGoesUp().mostly(9, STICKS), NONE);
@@ -436,6 +464,12 @@ public final class PromisesTest {
         due("17 just more", x.await(3, 1), 1);
         due("17 like again", x.await(6, 1), 1);
         due("17 more again", x.await(7, 1), 4);
+        due("17 to the last second", Check.classOf("P00595").await(1, 0), 9);
+        due("17 just worth it", x.await(21, 10), 1);
+        // 10 tenths at once, 5 more from 1
+        AHandGoesUp y = Check.classOf("F00595P01515");
+        due("17 some at once", y.await(99, 50), 0);
+        due("17 some more", y.await(99, 49), 1);
         due("17 greatest", x.await(99, 99), 0);
         due("17 v -1", x.await(-1, 0), OUTSIDE);
         due("17 v 100", x.await(100, 0), OUTSIDE);
@@ -496,6 +530,9 @@ public final class PromisesTest {
         due("21 fewest", x.ask(7, 9, FEWEST, false), 0);
         due("21 fewest next", x.ask(7, 9, FEWEST, false), 1);
         due("21 fewest again from the least", x.ask(7, 9, FEWEST, false), 0);
+        AHandGoesUp alone = Check.classOf("P00535");
+        due("21 one alone", alone.ask(1, 9, LOT, false), 0);
+        due("21 is drawn too", alone.seed(0), 1442695040888963407L);
         due("21 not drawn for nobody", x.ask(0, 9, LOT, false), NONE);
         due("21 nothing drawn", x.seed(0), 0);
         x.mood(0);
@@ -552,6 +589,12 @@ public final class PromisesTest {
         due("22 nobody taken", x.lesson(3), 2);
         due("22 never taken", x.lesson(4), 1);
         due("22 most times", x.lesson(5), 2);
+        // by STICKS it was 2, who dares less since
+        x.mood(0);
+        for (int i = 0; i < 3; i++) {
+            x.ask(4, 9, QUICK, false);
+        }
+        due("22 most times of another", x.lesson(5), 4);
         due("22 -1", x.lesson(-1), OUTSIDE);
         due("22 6", x.lesson(6), OUTSIDE);
         due("22 nobody in class", new AHandGoesUp().lesson(4), 0);
@@ -678,6 +721,8 @@ public final class PromisesTest {
         due("29 less than a twentieth", x.span(21, 1, 1, false), 2);
         due("29 all seen from", x.span(9, 9, 4, false), 4);
         due("29 all seen to", x.span(9, 9, 4, true), 4);
+        due("29 one board from", x.span(1, 1, 1, false), 1);
+        due("29 one board to", x.span(1, 1, 0, true), 0);
         due("29 n 0", x.span(0, 0, 0, true), OUTSIDE);
         due("29 n 31", x.span(31, 1, 1, true), OUTSIDE);
         due("29 s 0", x.span(4, 0, 0, true), OUTSIDE);
@@ -738,6 +783,7 @@ public final class PromisesTest {
         due("33 of 3", x.until(3, true), x.until(3, false), 11, 2);
         due("33 of 4", x.until(4, true), x.until(4, false), 25, 3);
         due("33 of 11", x.until(11, true), x.until(11, false), 83711, 2520);
+        due("33 of 12", x.until(12, true), x.until(12, false), 86021, 2310);
         due("33 of 0", x.until(0, true), OUTSIDE);
         due("33 of 13", x.until(13, false), OUTSIDE);
         due("33 of least", x.until(LEAST, false), OUTSIDE);
@@ -771,6 +817,7 @@ public final class PromisesTest {
         x.keep(0);
         int[][] as = stateOf(x);
         due("35 the other is not kept", x.again(1), STATE);
+        due("35 the first once more", x.ask(1, 9, FRONT, true), 0);
         x.ask(7, 9, STICKS, true);
         x.ask(7, 9, STICKS, true);
         x.ask(0, 9, STICKS, true);
