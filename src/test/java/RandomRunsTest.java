@@ -2,7 +2,7 @@ import java.util.Random;
 
 /** Runs of random calls, the same each time: AHandGoesUp must answer as Naive does. */
 public final class RandomRunsTest {
-    private static final int RUNS = 400, CALLS = 511, NUMBERS_AWRY_OF = 24;
+    private static final int RUNS = 600, CALLS = 512, MOST_OF_ONE = 60, NUMBERS_AWRY_OF = 24, LOT = 2;
 
     private final Check check;
     private final int run;
@@ -10,6 +10,7 @@ public final class RandomRunsTest {
     private final int mostPupils;
     private final AHandGoesUp x = new AHandGoesUp();
     private final Naive naive = new Naive();
+    private int calls;
 
     private RandomRunsTest(Check check, int run) {
         this.check = check;
@@ -23,15 +24,20 @@ public final class RandomRunsTest {
         Check check = new Check();
         for (int run = 0; run < RUNS && !check.hasWrong(); run++) {
             RandomRunsTest test = new RandomRunsTest(check, run);
-            test.go(run % 40 == 0 ? CALLS / 4 : CALLS);
+            test.go(run % 40 == 0 ? CALLS / 2 : CALLS);
         }
         check.end();
     }
 
-    private void go(int calls) {
+    /** An object is used for so many calls at most: the last ones are single calls. */
+    private void go(int most) {
         newClass();
-        for (int call = 0; call < calls; call++) {
+        while (calls + MOST_OF_ONE < most) {
             one(random.nextInt(36));
+        }
+        while (calls < most) {
+            int known = knows();
+            due("ask", x.ask(known, 9, LOT, true), naive.ask(known, 9, LOT, true));
         }
     }
 
@@ -67,15 +73,22 @@ public final class RandomRunsTest {
     }
 
     private void due(String call, long got, long want) {
+        calls++;
         check.due("run " + run + ": " + call, got, want);
     }
 
     private void newClass() {
         due("wipe", x.wipe(), naive.wipe());
         String signs = signs();
-        for (char sign : signs.toCharArray()) {
-            long v = random.nextLong() << 8 | sign;
-            due("write", x.write(1, v), naive.write(1, v));
+        int from = 0;
+        while (from < signs.length()) {
+            int n = Math.min(2 + random.nextInt(7), signs.length() - from);
+            long v = random.nextLong();
+            for (int i = 0; i < n; i++) {
+                v = v << 8 | signs.charAt(from + i);
+            }
+            due("write", x.write(n, v), naive.write(n, v));
+            from += n;
         }
         due("fault of " + signs, x.fault(), naive.fault());
         due("room of " + signs, x.room(), naive.room());
